@@ -314,7 +314,7 @@ public final class LiftCredit {
             return error(BEYOND);
         }
         Sheet told = sheets[sheet];
-        if (told.isMissing() || told.length > lift.riderCount) {
+        if (!tellsFloors(told)) {
             return error(NONE);
         }
         int ways = 0;
@@ -338,7 +338,7 @@ public final class LiftCredit {
             return error(BEYOND);
         }
         Sheet told = sheets[sheet];
-        if (told.isMissing() || told.length > lift.riderCount) {
+        if (!tellsFloors(told)) {
             return error(NONE);
         }
         // A lone saying's FLOOR asks only what is HEARD of that one FACT, so it's
@@ -495,7 +495,7 @@ public final class LiftCredit {
         int count = lift.waitingCount;
         lift.waitingCount = 0;
         int heard = lift.heard;
-        for (int i = 0; i < count && i < MOST_WAITING; i++) {
+        for (int i = 0; i < count; i++) {
             heard = lift.afterDay(heard);
             if (lift.waiting[i] != numberOf(heard)) {
                 return 1 + i;
@@ -528,14 +528,12 @@ public final class LiftCredit {
     // ---- errors, and what numbers may be
 
     private int error(int k) {
-        if (k >= BEYOND && k <= KIND) {
-            errors[k]++;
-        }
+        errors[k]++;
         return LOW - k;
     }
 
     private boolean isRider(int rider) {
-        return rider >= 0 && rider < lift.riderCount && rider < MOST_RIDERS;
+        return rider >= 0 && rider < lift.riderCount;
     }
 
     private static boolean isFact(int fact) {
@@ -564,6 +562,10 @@ public final class LiftCredit {
 
     private static boolean isSheet(int sheet) {
         return sheet >= 0 && sheet < SHEETS;
+    }
+
+    private boolean tellsFloors(Sheet told) {
+        return !told.isMissing() && told.length <= lift.riderCount;
     }
 
     // ---- what would be, worked out
