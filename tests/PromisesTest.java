@@ -43,6 +43,7 @@ final class PromisesTest {
         out();
         when();
         still();
+        sixtyDays();
         then();
         believed();
         word();
@@ -232,9 +233,7 @@ final class PromisesTest {
             for (int kind = 0; kind <= 6; kind++) {
                 LiftCredit x = with(10 * kind + 4);
                 x.story(0, 13);
-                for (int fact = 0, rest = row[0]; fact < 8; fact++, rest /= 3) {
-                    x.hear(fact, rest % 3);
-                }
+                hearAll(x, row[0]);
                 Due.is("credit of kind " + kind + ", heard " + row[0], x.ofRider(0, 7), row[kind + 1]);
                 int floor = Math.max(0, Math.min(9, row[kind + 1]));
                 Due.is("floor of kind " + kind + ", heard " + row[0], x.ofRider(0, 8), floor);
@@ -584,6 +583,13 @@ final class PromisesTest {
         x.tell(1459);
         Due.is("thought goes beyond", x.check(), 0);
         Due.is("rides of days that were not", x.count(2), 9999);
+        LiftCredit y = new LiftCredit();
+        for (int i = 0; i < 166; i++) {
+            y.days(60);
+        }
+        Due.is("one day too many", y.days(40), Due.STATE);
+        Due.is("to the last day", y.days(39), 0);
+        Due.is("day 9999", y.count(1), 9999);
     }
 
     private static void ridesAtTheirEnd() {
@@ -853,6 +859,39 @@ final class PromisesTest {
         return x;
     }
 
+    /** Lifts that take sixty days and more, found by a search; the model answers the same. */
+    private static void sixtyDays() {
+        int[] slow = {2186, 6272, 1749, 1275, 3820, 336};
+        LiftCredit x = spoken(with(25, 6, 53, 47, 21, 1), "6*!h", 2, slow);
+        hearAll(x, 4428);
+        Due.is("still behind 60 days", x.still(), 60);
+        hearAll(x, 4375);
+        Due.is("not by 60", x.still(), Due.NONE);
+        x.days(1);
+        Due.is("a day later", x.still(), 60);
+        int[] late = {1217, 271, 396, 307, 4855, 2610};
+        LiftCredit y = spoken(with(47, 39, 26, 25, 20, 34), "(9)*!h+c", 4, late);
+        hearAll(y, 4857);
+        Due.is("a floor behind 60 days", y.when(4, 3), 60);
+        y.days(60);
+        Due.is("the floor then", y.ofRider(4, 8) >= 3 ? 1 : 0, 1);
+    }
+
+    private static LiftCredit spoken(LiftCredit x, String credit, int trust, int[] stories) {
+        textOf(x, 0, credit);
+        x.trust(trust);
+        for (int i = 0; i < stories.length; i++) {
+            x.story(i, stories[i]);
+        }
+        return x;
+    }
+
+    private static void hearAll(LiftCredit x, int heard) {
+        for (int fact = 0, rest = heard; fact < 8; fact++, rest /= 3) {
+            x.hear(fact, rest % 3);
+        }
+    }
+
     private static void then() {
         LiftCredit x = threeDays();
         int[] due = {1, 13, 40, 364, 364};
@@ -895,6 +934,12 @@ final class PromisesTest {
         numbers(x, 2, 32, 2, 5, 0);
         Due.is("more numbers than riders", x.believed(2, 0), Due.NONE);
         Due.is("more numbers than riders", x.believed(2, 1), Due.NONE);
+        textOf(x, 0, "h");
+        x.story(0, 6560);
+        numbers(x, 2, 8, 8);
+        Due.is("the last way alone", x.believed(2, 0), 1);
+        Due.is("the least", x.believed(2, 1), 6560);
+        Due.is("its word", x.word(2, 0, 0), 0);
         Due.is("a missing sheet", x.believed(3, 0), Due.NONE);
         Due.is("believed(4, 0)", x.believed(4, 0), Due.BEYOND);
         Due.is("believed(-1, 0)", x.believed(-1, 0), Due.BEYOND);

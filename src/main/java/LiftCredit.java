@@ -395,7 +395,7 @@ public final class LiftCredit {
         if (bits != 0 && n > MOST_NUMBERS) {
             return error(BEYOND);
         }
-        sheets[sheet].renew(bits, bits == 0 ? 0 : n);
+        sheets[sheet].renew(bits, n);
         return 1;
     }
 
@@ -616,7 +616,7 @@ public final class LiftCredit {
     }
 
     // ---- sayings: what a STORY says, or what is HEARD. An int holds them as two sets
-    // of FACTS (so: bits 0 to 7; not so: bits 8 to 15), so that they're compared at once.
+    // of FACTS (so: bits 0 to 7; not so: bits 8 to 15), for two to be compared at once.
 
     private static int sayingOf(int sayings, int fact) {
         return (sayings >> fact & 1) + 2 * (sayings >> FACTS + fact & 1);
@@ -648,7 +648,7 @@ public final class LiftCredit {
         return sayings;
     }
 
-    /** The sayings whose number is one more: going through all of them costs no division. */
+    /** The sayings whose number is one more; a search through all of them is quicker by it. */
     private static int next(int sayings) {
         int after = sayings;
         for (int fact = 0; fact < FACTS; fact++) {
@@ -1115,6 +1115,7 @@ public final class LiftCredit {
         private final int[] worth = new int[(FACTS + 1) * (FACTS + 1) * (FACTS + 1)];
 
         Lift() {
+            // No place is ever empty, whoever it is that stands there.
             for (int i = 0; i < MOST_RIDERS; i++) {
                 riders[i] = riderOf(0, i);
             }
