@@ -22,6 +22,7 @@ public final class LiftCredit {
     private static final int DAYS_AHEAD = 60;
     private static final int SHEETS = 4;
     private static final int MOST_NUMBERS = 40;
+    private static final int MOST_BODIES = 40;
 
     private final Lift lift = new Lift();
     private Lift kept = null;
@@ -871,11 +872,11 @@ public final class LiftCredit {
     }
 
     private static final class Trace {
-        final int[] bodies = new int[MOST_NUMBERS];
+        final int[] bodies = new int[MOST_BODIES];
         int length = 0;
 
         void begins(int body) {
-            if (length < MOST_NUMBERS) {
+            if (length < MOST_BODIES) {
                 bodies[length] = body;
                 length++;
             }
