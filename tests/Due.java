@@ -8,15 +8,25 @@ final class Due {
 
     private static int asked = 0;
     private static int wrong = 0;
+    private static String about = "";
 
     private Due() {
+    }
+
+    /** What is told of each wrong answer from now on. */
+    static void begin(String what) {
+        about = what + ": ";
+    }
+
+    static void end() {
+        about = "";
     }
 
     static void is(String call, long got, long want) {
         asked++;
         if (got != want) {
             wrong++;
-            System.out.println(call + " answered " + got + ", due is " + want);
+            System.out.println(about + call + " answered " + got + ", due is " + want);
         }
     }
 
@@ -24,7 +34,7 @@ final class Due {
         asked++;
         if (!so) {
             wrong++;
-            System.out.println("doesn't hold: " + what);
+            System.out.println(about + "doesn't hold: " + what);
         }
     }
 

@@ -159,7 +159,6 @@ final class ModelRunsTest {
                 add(30, sheet, i, random.nextInt(7000) - 100);
             } else if (i < riders && random.nextInt(3) > 0) {
                 add(30, sheet, i, model.ofRider(i, 8));
-                lift.ofRider(i, 8);
             } else {
                 add(30, sheet, i, random.nextInt(11) - 1);
             }
@@ -181,7 +180,6 @@ final class ModelRunsTest {
         int numbers = random.nextInt(5);
         for (int i = 1; i <= numbers; i++) {
             add(36, random.nextInt(9) == 0 ? random.nextInt(6561) : model.then(i));
-            lift.then(i);
         }
         add(37);
     }
