@@ -30,6 +30,7 @@ final class LanguageTest {
         face();
         members();
         words();
+        methodsAreShort();
         Due.verdict();
     }
 
@@ -114,5 +115,28 @@ final class LanguageTest {
         }
         long longest = Arrays.stream(source.split("\n")).mapToInt(String::length).max().orElse(0);
         Due.holds("lines of 120 signs at most", longest <= 120);
+    }
+
+    /** A method begins where a line opens a bracket in a class's body; sixty lines are its most. */
+    private static void methodsAreShort() throws IOException {
+        int start = -1;
+        int outside = 0;
+        int depth = 0;
+        int methods = 0;
+        List<String> lines = Files.readAllLines(SOURCE, StandardCharsets.UTF_8);
+        for (int i = 0; i < lines.size(); i++) {
+            String line = lines.get(i).replaceAll("//.*|'.'|\"[^\"]*\"", "");
+            if (start < 0 && line.endsWith("{") && line.contains("(")) {
+                start = i;
+                outside = depth;
+                methods++;
+            }
+            depth += line.replaceAll("[^{]", "").length() - line.replaceAll("[^}]", "").length();
+            if (start >= 0 && depth == outside) {
+                Due.holds("the method of line " + (start + 1) + " has sixty lines at most", i - start < 60);
+                start = -1;
+            }
+        }
+        Due.holds("methods are found", methods > 100);
     }
 }

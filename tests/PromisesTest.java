@@ -43,7 +43,6 @@ final class PromisesTest {
         out();
         when();
         still();
-        sixtyDays();
         then();
         believed();
         word();
@@ -62,38 +61,6 @@ final class PromisesTest {
         told();
         anyNumberIsNoError();
         Due.verdict();
-    }
-
-    /** A lift with riders of these KINDS (km), none of whom says anything. */
-    private static LiftCredit with(int... kms) {
-        LiftCredit x = new LiftCredit();
-        for (int km : kms) {
-            x.rider(km);
-        }
-        return x;
-    }
-
-    private static void feedAll(LiftCredit x, String text) {
-        for (int i = 0; i < text.length(); i += 8) {
-            int bytes = Math.min(8, text.length() - i);
-            long word = 0;
-            for (int at = bytes - 1; at >= 0; at--) {
-                word = word << 8 | text.charAt(i + at);
-            }
-            x.feed(word, bytes);
-        }
-    }
-
-    private static int textOf(LiftCredit x, int use, String text) {
-        feedAll(x, text);
-        return x.text(use);
-    }
-
-    private static void numbers(LiftCredit x, int sheet, int bits, int... numbers) {
-        x.sheet(sheet, bits, numbers.length);
-        for (int i = 0; i < numbers.length; i++) {
-            x.put(sheet, i, numbers[i]);
-        }
     }
 
     // ---- facts, riders
@@ -193,7 +160,7 @@ final class PromisesTest {
     }
 
     private static void ofRider() {
-        LiftCredit x = with(58, 27);
+        LiftCredit x = Lifts.with(58, 27);
         x.story(1, 1 + 2 * 3 + 9 + 2 * 27 + 2187);
         x.hear(0, 1);
         x.hear(1, 2);
@@ -231,9 +198,9 @@ final class PromisesTest {
         };
         for (int[] row : due) {
             for (int kind = 0; kind <= 6; kind++) {
-                LiftCredit x = with(10 * kind + 4);
+                LiftCredit x = Lifts.with(10 * kind + 4);
                 x.story(0, 13);
-                hearAll(x, row[0]);
+                Lifts.hearing(x, row[0]);
                 Due.is("credit of kind " + kind + ", heard " + row[0], x.ofRider(0, 7), row[kind + 1]);
                 int floor = Math.max(0, Math.min(9, row[kind + 1]));
                 Due.is("floor of kind " + kind + ", heard " + row[0], x.ofRider(0, 8), floor);
@@ -242,7 +209,7 @@ final class PromisesTest {
     }
 
     private static void floorIsHeld() {
-        LiftCredit x = with(49, 30);
+        LiftCredit x = Lifts.with(49, 30);
         x.story(0, 3280);
         Due.is("credit of 14", x.ofRider(0, 7), 14);
         Due.is("floor of 14", x.ofRider(0, 8), 9);
@@ -258,7 +225,7 @@ final class PromisesTest {
     }
 
     private static void story() {
-        LiftCredit x = with(0, 0);
+        LiftCredit x = Lifts.with(0, 0);
         Due.is("story(0, 6560)", x.story(0, 6560), 0);
         Due.is("story(1, 5)", x.story(1, 5), 0);
         Due.is("story(0, 0)", x.story(0, 0), 6560);
@@ -270,7 +237,7 @@ final class PromisesTest {
     }
 
     private static void say() {
-        LiftCredit x = with(0, 0);
+        LiftCredit x = Lifts.with(0, 0);
         Due.is("say so", x.say(1, 0, 1), 0);
         Due.is("say not so", x.say(1, 7, 2), 0);
         Due.is("what was said", x.ofRider(1, 2), 4375);
@@ -288,7 +255,7 @@ final class PromisesTest {
     }
 
     private static void become() {
-        LiftCredit x = with(14, 0);
+        LiftCredit x = Lifts.with(14, 0);
         x.story(0, 100);
         Due.is("become(0, 69)", x.become(0, 69), 1);
         Due.is("kind then", x.ofRider(0, 0), 6);
@@ -306,7 +273,7 @@ final class PromisesTest {
     private static void as() {
         int[][] kindsOf = {{0}, {0, 1}, {0, 2}, {0, 3}, {0, 1, 4}, {0, 2, 5}, {0, 3, 6}};
         for (int kind = 0; kind <= 6; kind++) {
-            LiftCredit x = with(10 * kind + 8);
+            LiftCredit x = Lifts.with(10 * kind + 8);
             for (int asked = 0; asked <= 6; asked++) {
                 boolean isOne = false;
                 for (int of : kindsOf[kind]) {
@@ -315,7 +282,7 @@ final class PromisesTest {
                 Due.is("kind " + kind + " as " + asked, x.as(0, asked), isOne ? 8 : Due.KIND);
             }
         }
-        LiftCredit x = with(0);
+        LiftCredit x = Lifts.with(0);
         Due.is("as(0, 7)", x.as(0, 7), Due.BEYOND);
         Due.is("as(0, -1)", x.as(0, -1), Due.BEYOND);
         Due.is("as(1, 0)", x.as(1, 0), Due.BEYOND);
@@ -353,7 +320,7 @@ final class PromisesTest {
     private static void text() {
         LiftCredit x = new LiftCredit();
         Due.is("an empty tape", x.text(0), -10);
-        feedAll(x, "h");
+        Lifts.feed(x, "h");
         Due.is("text(2)", x.text(2), Due.BEYOND);
         Due.is("text(-1)", x.text(-1), Due.BEYOND);
         Due.is("the tape stays", x.count(7), 1);
@@ -361,21 +328,21 @@ final class PromisesTest {
         Due.is("the tape is empty", x.count(7), 0);
         Due.is("the text of credit", x.law(0, 42, 1, 1), 42);
         Due.is("not of the crowd", x.law(1, 42, 1, 1), 40);
-        Due.is("a faulty text", textOf(x, 0, "c+"), -12);
+        Due.is("a faulty text", Lifts.text(x, 0, "c+"), -12);
         Due.is("the tape is empty, too", x.count(7), 0);
         Due.is("the one ahead stays", x.law(0, 42, 1, 1), 42);
-        Due.is("a new text", textOf(x, 0, "c"), 1);
+        Due.is("a new text", Lifts.text(x, 0, "c"), 1);
         Due.is("in place of one ahead", x.law(0, 42, 7, 1), 7);
-        Due.is("a text of the crowd", textOf(x, 1, "k"), 1);
+        Due.is("a text of the crowd", Lifts.text(x, 1, "k"), 1);
         Due.is("of credit as before", x.law(0, 42, 7, 1), 7);
         Due.is("of the crowd", x.law(1, 42, 6, 1), 6);
-        Due.is("names of the other use", textOf(x, 0, "s"), -10);
-        Due.is("names of the other use", textOf(x, 1, "n"), -10);
-        LiftCredit y = with(0);
+        Due.is("names of the other use", Lifts.text(x, 0, "s"), -10);
+        Due.is("names of the other use", Lifts.text(x, 1, "n"), -10);
+        LiftCredit y = Lifts.with(0);
         y.story(0, 1);
-        textOf(y, 0, "7");
+        Lifts.text(y, 0, "7");
         Due.is("riders are credited by it", y.ofRider(0, 8), 7);
-        textOf(y, 0, "6-n");
+        Lifts.text(y, 0, "6-n");
         Due.is("and by the next", y.ofRider(0, 8), 5);
     }
 
@@ -394,13 +361,13 @@ final class PromisesTest {
         for (Object[] row : due) {
             LiftCredit x = new LiftCredit();
             int fault = (Integer) row[1];
-            Due.is("text \"" + row[0] + "\"", textOf(x, 0, (String) row[0]), fault < 0 ? 1 : -10 - fault);
+            Due.is("text \"" + row[0] + "\"", Lifts.text(x, 0, (String) row[0]), fault < 0 ? 1 : -10 - fault);
         }
         String ones = "1+1+1+1+1+1+1+1+1+1+1+1+1+1+1+1+1+1+1+1+1+1+1+1+";
         LiftCredit x = new LiftCredit();
-        Due.is("a text of 50 bytes", textOf(x, 0, ones + "11"), 1);
+        Due.is("a text of 50 bytes", Lifts.text(x, 0, ones + "11"), 1);
         Due.is("what it gives", x.law(0, 0, 0, 0), 35);
-        Due.is("50 bytes that end too early", textOf(x, 0, ones + "1+"), -60);
+        Due.is("50 bytes that end too early", Lifts.text(x, 0, ones + "1+"), -60);
     }
 
     private static void openSigns() {
@@ -409,12 +376,13 @@ final class PromisesTest {
             {"!(!(!(h)))", 5}, {"(!!(!h))", -1}, {"(!!(!!h))", 5}, {"!!!!!h+!!!!!n", -1},
             {"(((((h)))))+(((((n)))))", -1}, {"!!!(h)+!!!!!n", -1}, {"((!!h+!!!n))", -1}, {"((!!h+!!!!n))", 9},
             {"(((((", 5}, {"((((((", 5}, {"!!!!!", 5}, {"!!!!!!", 5}, {"(((((h", 6}, {"((((h)+(!n", 10},
-            {"(((((h)+!n", 10}, {"(((((h)+(", 9}, {"(((((h)+!(", 9}, {"(((((h+!n", 7}, {"((((!h)+!n", 10}, {"!!!!!(", 5}, {"(!(!(", 5}, {"(!(!((", 5},
+            {"(((((h)+!n", 10}, {"(((((h)+(", 9}, {"(((((h)+!(", 9}, {"(((((h+!n", 7}, {"((((!h)+!n", 10},
+            {"!!!!!(", 5}, {"(!(!(", 5}, {"(!(!((", 5},
         };
         for (Object[] row : due) {
             LiftCredit x = new LiftCredit();
             int fault = (Integer) row[1];
-            Due.is("text \"" + row[0] + "\"", textOf(x, 0, (String) row[0]), fault < 0 ? 1 : -10 - fault);
+            Due.is("text \"" + row[0] + "\"", Lifts.text(x, 0, (String) row[0]), fault < 0 ? 1 : -10 - fault);
         }
     }
 
@@ -450,7 +418,7 @@ final class PromisesTest {
         };
         for (Object[] row : due) {
             LiftCredit x = new LiftCredit();
-            int answer = textOf(x, 0, (String) row[0]);
+            int answer = Lifts.text(x, 0, (String) row[0]);
             int want = (Integer) row[4];
             if (want == MIN) {
                 Due.is("text \"" + row[0] + "\"", answer, -13);
@@ -460,14 +428,14 @@ final class PromisesTest {
             Due.is("\"" + row[0] + "\" of " + row[1] + ", " + row[2] + ", " + row[3], got, want);
         }
         LiftCredit x = new LiftCredit();
-        Due.is("a crowd's text", textOf(x, 1, "s*9-k*3+d"), 1);
+        Due.is("a crowd's text", Lifts.text(x, 1, "s*9-k*3+d"), 1);
         Due.is("its names in order", x.law(1, 4, 2, 1), 31);
     }
 
     private static void lawsAreHeld() {
         LiftCredit x = new LiftCredit();
-        textOf(x, 0, "h");
-        textOf(x, 1, "s");
+        Lifts.text(x, 0, "h");
+        Lifts.text(x, 1, "s");
         for (int use = 0; use <= 1; use++) {
             Due.is("99", x.law(use, 99, 0, 0), 99);
             Due.is("100", x.law(use, 100, 0, 0), 99);
@@ -476,20 +444,20 @@ final class PromisesTest {
             Due.is("-100", x.law(use, -100, 0, 0), -99);
             Due.is("MIN", x.law(use, MIN, 0, 0), -99);
         }
-        LiftCredit y = with(0, 49, 3);
+        LiftCredit y = Lifts.with(0, 49, 3);
         y.story(0, 1);
         y.story(1, 1);
-        textOf(y, 0, "9999");
+        Lifts.text(y, 0, "9999");
         Due.is("held ahead of what a kind makes of it", y.ofRider(0, 7), 99);
         Due.is("a clerk's 5 at most and m", y.ofRider(1, 7), 14);
-        textOf(y, 0, "0-9999");
+        Lifts.text(y, 0, "0-9999");
         Due.is("held ahead of what a kind makes of it", y.ofRider(1, 7), -90);
     }
 
     // ---- rides
 
     private static void ride() {
-        LiftCredit x = with(0, 0, 0);
+        LiftCredit x = Lifts.with(0, 0, 0);
         x.story(0, 13);
         x.story(1, 2 * 27);
         Due.is("the cellar", x.ride(2), -1);
@@ -514,20 +482,20 @@ final class PromisesTest {
     private static void rideGivesUp() {
         int[][] due = {{3, 3}, {2, 3}, {0, 3}, {4, 5}, {6, 5}, {7, 2}};
         for (int[] row : due) {
-            LiftCredit x = with(49);
+            LiftCredit x = Lifts.with(49);
             x.story(0, 4);
             x.hear(0, 2);
             x.trust(row[0]);
             Due.is("floor", x.ride(0), 6);
             Due.is("heard, trust " + row[0], x.heard(), row[1]);
         }
-        LiftCredit x = with(49);
+        LiftCredit x = Lifts.with(49);
         x.story(0, 4);
         x.hear(0, 2);
         x.ride(0);
         Due.is("a ride more", x.ride(0), 9);
         Due.is("what was given up is heard from now on", x.heard(), 4);
-        LiftCredit y = with(0);
+        LiftCredit y = Lifts.with(0);
         y.story(0, 1);
         y.hear(0, 2);
         y.trust(0);
@@ -536,7 +504,7 @@ final class PromisesTest {
     }
 
     private static void days() {
-        LiftCredit x = with(0, 0);
+        LiftCredit x = Lifts.with(0, 0);
         x.trust(1);
         x.story(0, 9);
         x.story(1, 18 + 1);
@@ -550,7 +518,7 @@ final class PromisesTest {
         Due.is("days(60)", x.days(60), 9);
         Due.is("day 61", x.count(1), 61);
         Due.is("rides 122", x.count(2), 122);
-        LiftCredit y = with(0, 0);
+        LiftCredit y = Lifts.with(0, 0);
         y.trust(1);
         y.story(0, 18 + 1);
         y.story(1, 9);
@@ -558,7 +526,7 @@ final class PromisesTest {
     }
 
     private static void daysAtTheirEnd() {
-        LiftCredit x = with(0);
+        LiftCredit x = Lifts.with(0);
         for (int i = 0; i < 166; i++) {
             x.days(60);
         }
@@ -593,7 +561,7 @@ final class PromisesTest {
     }
 
     private static void ridesAtTheirEnd() {
-        LiftCredit x = with(0, 0, 0, 0, 0, 0);
+        LiftCredit x = Lifts.with(0, 0, 0, 0, 0, 0);
         for (int i = 0; i < 27; i++) {
             x.days(60);
         }
@@ -624,7 +592,7 @@ final class PromisesTest {
         x.hear(7, 1);
         Due.is("of fact 7: nothing", x.rumours(1), 1620);
         Due.is("z behind six", x.count(10), -1778682749);
-        LiftCredit y = with(0, 0);
+        LiftCredit y = Lifts.with(0, 0);
         y.trust(1);
         y.story(0, 1);
         y.story(1, 729);
@@ -641,7 +609,7 @@ final class PromisesTest {
     // ---- what would be
 
     private static void together() {
-        LiftCredit x = with(0, 10, 30, 0);
+        LiftCredit x = Lifts.with(0, 10, 30, 0);
         Due.is("nobody says anything", x.together(15), -1);
         x.story(0, 1);
         x.story(1, 3);
@@ -651,13 +619,13 @@ final class PromisesTest {
         Due.is("one says something", x.together(5), 2);
         Due.is("silence has its credit, too", x.together(4), -1);
         Due.is("together(3)", x.together(3), 1);
-        textOf(x, 1, "s*100+k*10+d-120");
+        Lifts.text(x, 1, "s*100+k*10+d-120");
         Due.is("s 1, k 2: held below", x.together(9), 0);
-        textOf(x, 1, "s");
+        Lifts.text(x, 1, "s");
         Due.is("s", x.together(15), 5);
-        textOf(x, 1, "k");
+        Lifts.text(x, 1, "k");
         Due.is("k", x.together(15), 4);
-        textOf(x, 1, "9-d");
+        Lifts.text(x, 1, "9-d");
         Due.is("d 0", x.together(15), 9);
         x.say(1, 0, 2);
         Due.is("d 1", x.together(15), 8);
@@ -670,7 +638,7 @@ final class PromisesTest {
         x.say(0, 7, 1);
         x.say(3, 7, 2);
         Due.is("d of the last fact", x.together(9), 8);
-        textOf(x, 1, "10+s");
+        Lifts.text(x, 1, "10+s");
         Due.is("held above", x.together(1), 9);
         Due.is("together(16)", x.together(16), Due.BEYOND);
         Due.is("together(0)", x.together(0), Due.BEYOND);
@@ -679,7 +647,7 @@ final class PromisesTest {
     }
 
     private static void bestWith() {
-        LiftCredit x = with(0, 49, 30);
+        LiftCredit x = Lifts.with(0, 49, 30);
         x.story(0, 1);
         x.story(1, 3);
         x.story(2, 9);
@@ -689,17 +657,17 @@ final class PromisesTest {
         Due.is("its floor", x.bestWith(1, 1), 9);
         Due.is("the crowd of rider 2", x.bestWith(2, 0), 6);
         Due.is("its floor", x.bestWith(2, 1), 7);
-        LiftCredit y = with(0, 49, 49);
+        LiftCredit y = Lifts.with(0, 49, 49);
         y.story(0, 1);
         y.story(1, 3);
         y.story(2, 6);
         Due.is("the fewest, then the least", y.bestWith(0, 0), 3);
-        textOf(y, 1, "0");
+        Lifts.text(y, 1, "0");
         Due.is("the fewest", y.bestWith(2, 0), 4);
         Due.is("its floor", y.bestWith(2, 1), 0);
-        textOf(y, 1, "k=2");
+        Lifts.text(y, 1, "k=2");
         Due.is("the least", y.bestWith(2, 0), 5);
-        LiftCredit z = with(0, 0);
+        LiftCredit z = Lifts.with(0, 0);
         Due.is("nobody says anything", z.bestWith(1, 0), 2);
         Due.is("nobody says anything", z.bestWith(1, 1), -1);
         z.story(0, 2);
@@ -712,7 +680,7 @@ final class PromisesTest {
     }
 
     private static void shortest() {
-        LiftCredit x = with(0, 49, 62);
+        LiftCredit x = Lifts.with(0, 49, 62);
         Due.is("to the ground", x.shortest(0, 0), 1);
         Due.is("three facts", x.shortest(0, 3), 13);
         Due.is("eight facts", x.shortest(0, 8), 3280);
@@ -730,7 +698,7 @@ final class PromisesTest {
         x.story(0, 500);
         Due.is("whatever the story is", x.shortest(0, 2), 4374);
         Due.is("which stays", x.ofRider(0, 2), 500);
-        textOf(x, 0, "h*9+c*9");
+        Lifts.text(x, 0, "h*9+c*9");
         Due.is("the other way round is less", x.shortest(0, 9), 2187);
         Due.is("shortest(3, 0)", x.shortest(3, 0), Due.BEYOND);
         Due.is("shortest(-1, 0)", x.shortest(-1, 0), Due.BEYOND);
@@ -739,7 +707,7 @@ final class PromisesTest {
     }
 
     private static void truest() {
-        LiftCredit x = with(0);
+        LiftCredit x = Lifts.with(0);
         x.world(6);
         Due.is("to the ground", x.truest(0, 0), 2);
         Due.is("two facts", x.truest(0, 2), 5);
@@ -759,7 +727,7 @@ final class PromisesTest {
     }
 
     private static void out() {
-        LiftCredit x = with(0, 20);
+        LiftCredit x = Lifts.with(0, 20);
         Due.is("nothing said", x.out(0, 0), Due.NONE);
         x.story(0, 13);
         x.hear(0, 2);
@@ -775,8 +743,8 @@ final class PromisesTest {
         x.say(0, 0, 0);
         Due.is("what isn't said isn't left out", x.out(0, 1), 2);
         Due.is("the story stays", x.ofRider(0, 2), 12);
-        LiftCredit y = with(0);
-        textOf(y, 0, "(h=0|n=0)*9");
+        LiftCredit y = Lifts.with(0);
+        Lifts.text(y, 0, "(h=0|n=0)*9");
         y.story(0, 13);
         y.hear(2, 1);
         Due.is("fewest ahead of least", y.out(0, 9), 4);
@@ -790,7 +758,7 @@ final class PromisesTest {
     }
 
     private static void when() {
-        LiftCredit x = with(0, 0);
+        LiftCredit x = Lifts.with(0, 0);
         x.trust(1);
         x.story(0, 1);
         Due.is("there already", x.when(0, 1), 0);
@@ -803,7 +771,7 @@ final class PromisesTest {
         Due.is("nothing is heard", x.heard(), 0);
         Due.is("no day", x.count(1), 0);
         Due.is("no ride", x.count(2), 0);
-        LiftCredit y = threeDays();
+        LiftCredit y = Lifts.threeDays();
         Due.is("behind three days", y.when(0, 6), 3);
         Due.is("behind two days", y.when(0, 4), 2);
         Due.is("behind two days", y.when(1, 6), 2);
@@ -813,30 +781,15 @@ final class PromisesTest {
         Due.is("when(0, -1)", x.when(0, -1), Due.BEYOND);
     }
 
-    /**
-     * TRUST 4, FACT 0 heard so, each rider ahead of the one who lets it be trusted a day later:
-     * rider 2 (facts 0, 1, 2: h 1, n 2, a CREDIT of 4) at once, then rider 1 (1, 2, 3: h 2, n 1,
-     * 5), then rider 0 (3, 4, 5: h 1, n 2, 4). Each has 3 before.
-     */
-    private static LiftCredit threeDays() {
-        LiftCredit x = with(0, 0, 0);
-        x.trust(4);
-        x.hear(0, 1);
-        x.story(2, 1 + 3 + 9);
-        x.story(1, 3 + 9 + 27);
-        x.story(0, 27 + 81 + 243);
-        return x;
-    }
-
     private static void still() {
         Due.is("no riders", new LiftCredit().still(), 0);
-        LiftCredit x = with(0);
+        LiftCredit x = Lifts.with(0);
         x.trust(1);
         x.story(0, 1);
         Due.is("one day", x.still(), 1);
-        Due.is("three days", threeDays().still(), 3);
-        Due.is("never", swing().still(), Due.NONE);
-        LiftCredit y = with(0, 49);
+        Due.is("three days", Lifts.threeDays().still(), 3);
+        Due.is("never", Lifts.swing().still(), Due.NONE);
+        LiftCredit y = Lifts.with(0, 49);
         y.trust(1);
         y.story(0, 1);
         y.story(1, 2);
@@ -845,55 +798,8 @@ final class PromisesTest {
         Due.is("no ride", y.count(2), 0);
     }
 
-    /**
-     * By "(h=0)*9" rider 0 is heard on days 1, 3, .. (7, of which rider 2 makes 6), rider 1 on days
-     * 2, 4, .. (1, of which rider 2 makes 0).
-     */
-    private static LiftCredit swing() {
-        LiftCredit x = with(0, 0, 0);
-        textOf(x, 0, "(h=0)*9");
-        x.trust(1);
-        x.story(0, 7);
-        x.story(1, 4);
-        x.story(2, 2);
-        return x;
-    }
-
-    /** Lifts that take sixty days and more, found by a search; the model answers the same. */
-    private static void sixtyDays() {
-        int[] slow = {2186, 6272, 1749, 1275, 3820, 336};
-        LiftCredit x = spoken(with(25, 6, 53, 47, 21, 1), "6*!h", 2, slow);
-        hearAll(x, 4428);
-        Due.is("still behind 60 days", x.still(), 60);
-        hearAll(x, 4375);
-        Due.is("not by 60", x.still(), Due.NONE);
-        x.days(1);
-        Due.is("a day later", x.still(), 60);
-        int[] late = {1217, 271, 396, 307, 4855, 2610};
-        LiftCredit y = spoken(with(47, 39, 26, 25, 20, 34), "(9)*!h+c", 4, late);
-        hearAll(y, 4857);
-        Due.is("a floor behind 60 days", y.when(4, 3), 60);
-        y.days(60);
-        Due.is("the floor then", y.ofRider(4, 8) >= 3 ? 1 : 0, 1);
-    }
-
-    private static LiftCredit spoken(LiftCredit x, String credit, int trust, int[] stories) {
-        textOf(x, 0, credit);
-        x.trust(trust);
-        for (int i = 0; i < stories.length; i++) {
-            x.story(i, stories[i]);
-        }
-        return x;
-    }
-
-    private static void hearAll(LiftCredit x, int heard) {
-        for (int fact = 0, rest = heard; fact < 8; fact++, rest /= 3) {
-            x.hear(fact, rest % 3);
-        }
-    }
-
     private static void then() {
-        LiftCredit x = threeDays();
+        LiftCredit x = Lifts.threeDays();
         int[] due = {1, 13, 40, 364, 364};
         for (int n = 0; n < due.length; n++) {
             Due.is("then(" + n + ")", x.then(n), due[n]);
@@ -901,7 +807,7 @@ final class PromisesTest {
         Due.is("heard now", x.heard(), 1);
         Due.is("no day", x.count(1), 0);
         Due.is("no ride", x.count(2), 0);
-        LiftCredit y = swing();
+        LiftCredit y = Lifts.swing();
         Due.is("then(59)", y.then(59), 6);
         Due.is("then(60)", y.then(60), 0);
         Due.is("then(61)", y.then(61), Due.BEYOND);
@@ -909,34 +815,34 @@ final class PromisesTest {
     }
 
     private static void believed() {
-        LiftCredit x = with(0, 49);
+        LiftCredit x = Lifts.with(0, 49);
         x.story(0, 1);
-        numbers(x, 0, 8);
+        Lifts.numbers(x, 0, 8);
         Due.is("an empty sheet", x.believed(0, 0), 6561);
         Due.is("the least", x.believed(0, 1), 0);
         int[][] due = {{2, 2187, 1}, {1, 2187, 0}, {0, 2187, 2}};
         for (int[] row : due) {
-            numbers(x, 1, 16, row[0]);
+            Lifts.numbers(x, 1, 16, row[0]);
             Due.is("floor " + row[0], x.believed(1, 0), row[1]);
             Due.is("the least", x.believed(1, 1), row[2]);
         }
-        numbers(x, 1, 16, 3);
+        Lifts.numbers(x, 1, 16, 3);
         Due.is("in no way", x.believed(1, 0), 0);
         Due.is("no least", x.believed(1, 1), Due.NONE);
-        numbers(x, 2, 32, 2, -1);
+        Lifts.numbers(x, 2, 32, 2, -1);
         Due.is("the cellar", x.believed(2, 0), 2187);
         x.story(1, 18);
-        numbers(x, 2, 32, 2, 5);
+        Lifts.numbers(x, 2, 32, 2, 5);
         Due.is("fact 0 so, fact 2 so", x.believed(2, 0), 729);
         Due.is("the least", x.believed(2, 1), 10);
         Due.is("whatever is heard", x.hear(0, 2), 0);
         Due.is("the least", x.believed(2, 1), 10);
-        numbers(x, 2, 32, 2, 5, 0);
+        Lifts.numbers(x, 2, 32, 2, 5, 0);
         Due.is("more numbers than riders", x.believed(2, 0), Due.NONE);
         Due.is("more numbers than riders", x.believed(2, 1), Due.NONE);
-        textOf(x, 0, "h");
+        Lifts.text(x, 0, "h");
         x.story(0, 6560);
-        numbers(x, 2, 8, 8);
+        Lifts.numbers(x, 2, 8, 8);
         Due.is("the last way alone", x.believed(2, 0), 1);
         Due.is("the least", x.believed(2, 1), 6560);
         Due.is("its word", x.word(2, 0, 0), 0);
@@ -948,33 +854,33 @@ final class PromisesTest {
     }
 
     private static void word() {
-        LiftCredit x = with(0, 49, 62);
+        LiftCredit x = Lifts.with(0, 49, 62);
         x.story(0, 1);
-        numbers(x, 0, 8);
+        Lifts.numbers(x, 0, 8);
         Due.is("of several the least", x.word(0, 0, 0), 0);
         Due.is("floors 0, 1, 2", x.word(0, 0, 1), 3);
         Due.is("an inspector's 5 and 9", x.word(0, 1, 1), 2);
         Due.is("a silent one's 0, 3 and 4", x.word(0, 2, 1), 3);
-        numbers(x, 0, 8, 2);
+        Lifts.numbers(x, 0, 8, 2);
         Due.is("fact 0 is known", x.word(0, 0, 0), 1);
         Due.is("three by another", x.word(0, 0, 1), 3);
         x.story(0, 3280);
-        numbers(x, 0, 8, 8);
-        textOf(x, 0, "n");
-        numbers(x, 0, 8, 8);
+        Lifts.numbers(x, 0, 8, 8);
+        Lifts.text(x, 0, "n");
+        Lifts.numbers(x, 0, 8, 8);
         Due.is("one way", x.believed(0, 0), 1);
         Due.is("no word tells", x.word(0, 0, 0), 0);
         Due.is("one floor", x.word(0, 0, 1), 1);
         x.story(0, 3279);
-        numbers(x, 0, 8, 7);
+        Lifts.numbers(x, 0, 8, 7);
         Due.is("fact 0 tells", x.word(0, 0, 0), 0);
         Due.is("two floors", x.word(0, 0, 1), 2);
         x.story(0, 3280 - 2187);
         Due.is("fact 7 tells", x.word(0, 0, 0), 7);
-        numbers(x, 0, 8, 9);
+        Lifts.numbers(x, 0, 8, 9);
         Due.is("no way", x.word(0, 0, 0), Due.NONE);
         Due.is("no way", x.word(0, 0, 1), Due.NONE);
-        numbers(x, 0, 8, 0, 0, 0, 0);
+        Lifts.numbers(x, 0, 8, 0, 0, 0, 0);
         Due.is("more numbers than riders", x.word(0, 0, 0), Due.NONE);
         Due.is("a missing sheet", x.word(3, 0, 0), Due.NONE);
         Due.is("word(4, 0, 0)", x.word(4, 0, 0), Due.BEYOND);
@@ -1010,7 +916,7 @@ final class PromisesTest {
     }
 
     private static void voices() {
-        LiftCredit x = with(4, 13, 25, 37, 49, 58);
+        LiftCredit x = Lifts.with(4, 13, 25, 37, 49, 58);
         speaks(x, 0, 0, 7, 7, 10);
         speaks(x, 0, 1, 7, 14, 11, 10);
         speaks(x, 0, 2, 7, 3, 12);
@@ -1050,7 +956,7 @@ final class PromisesTest {
     }
 
     private static void trace() {
-        LiftCredit x = with(0, 10);
+        LiftCredit x = Lifts.with(0, 10);
         Due.is("trace(0)", x.trace(0), Due.NONE);
         x.voice(1, 3, 0);
         Due.is("trace(4)", x.trace(4), 12);
@@ -1067,7 +973,7 @@ final class PromisesTest {
     // ---- sheets
 
     private static void sheet() {
-        LiftCredit x = with(0);
+        LiftCredit x = Lifts.with(0);
         Due.is("sheet(4, 8, 1)", x.sheet(4, 8, 1), Due.BEYOND);
         Due.is("sheet(-1, 8, 1)", x.sheet(-1, 8, 1), Due.BEYOND);
         Due.is("sheet(0, 7, 1)", x.sheet(0, 7, 1), Due.BEYOND);
@@ -1089,7 +995,7 @@ final class PromisesTest {
         Due.is("missing, n doesn't matter", x.sheet(0, 0, 99), 1);
         Due.is("sheet(3, 32, 0)", x.sheet(3, 32, 0), 1);
         Due.is("without numbers, not missing", x.put(3, 0, 0), Due.BEYOND);
-        numbers(x, 1, 16, 5);
+        Lifts.numbers(x, 1, 16, 5);
         x.sheet(1, 16, 1);
         Due.is("stories of an empty number", x.stories(1), 1);
         Due.is("all 0", x.ofRider(0, 2), 0);
@@ -1105,7 +1011,7 @@ final class PromisesTest {
     }
 
     private static void put() {
-        LiftCredit x = with(0);
+        LiftCredit x = Lifts.with(0);
         Due.is("put(4, 0, 0)", x.put(4, 0, 0), Due.BEYOND);
         Due.is("put(-1, 0, 0)", x.put(-1, 0, 0), Due.BEYOND);
         Due.is("a missing sheet", x.put(0, 0, 0), Due.NONE);
@@ -1119,32 +1025,32 @@ final class PromisesTest {
             {16, -65536 + 6, 6}, {32, 6560, 6560},
         };
         for (int[] row : due) {
-            numbers(x, 1, row[0], row[1]);
+            Lifts.numbers(x, 1, row[0], row[1]);
             Due.is("lowest bits of " + row[1], x.stories(1), 1);
             Due.is("lowest bits of " + row[1], x.ofRider(0, 2), row[2]);
         }
         x.story(0, 0);
         int[][] cellar = {{8, -1, 1}, {8, 255, 1}, {8, 127, 0}, {16, 255, 0}, {16, 65535, 1}, {32, 65535, 0}, {32, -1, 1}};
         for (int[] row : cellar) {
-            numbers(x, 1, row[0], row[1]);
+            Lifts.numbers(x, 1, row[0], row[1]);
             Due.is(row[1] + " in " + row[0] + " bits is the cellar", x.judge(1), row[2] == 1 ? -1 : 0);
         }
     }
 
     private static void move() {
-        LiftCredit x = with(0, 0, 0, 0);
+        LiftCredit x = Lifts.with(0, 0, 0, 0);
         Due.is("move(4, ..)", x.move(4, 0, 0, 0, 0), Due.BEYOND);
         Due.is("move(-1, ..)", x.move(-1, 0, 0, 0, 0), Due.BEYOND);
         Due.is("move(.., 4, ..)", x.move(0, 0, 4, 0, 0), Due.BEYOND);
         Due.is("move(.., -1, ..)", x.move(0, 0, -1, 0, 0), Due.BEYOND);
         Due.is("both missing", x.move(0, 0, 1, 0, 0), Due.NONE);
-        numbers(x, 0, 16, 1, 2, 3, 4);
+        Lifts.numbers(x, 0, 16, 1, 2, 3, 4);
         Due.is("one missing", x.move(0, 0, 1, 0, 1), Due.NONE);
         Due.is("the other missing", x.move(1, 0, 0, 0, 1), Due.NONE);
-        numbers(x, 1, 8, 0, 0);
+        Lifts.numbers(x, 1, 8, 0, 0);
         Due.is("unlike bits", x.move(0, 0, 1, 0, 1), Due.KIND);
         Due.is("unlike bits ahead of places", x.move(0, -1, 1, 9, 99), Due.KIND);
-        numbers(x, 1, 16, 9, 9);
+        Lifts.numbers(x, 1, 16, 9, 9);
         int[][] wrong = {
             {0, 0, 1, 0, -1}, {0, -1, 1, 0, 1}, {0, 0, 1, -1, 1}, {0, 4, 1, 0, 1}, {0, 0, 1, 2, 1}, {0, 2, 1, 0, 3},
             {0, 0, 1, 0, 3}, {0, MAX, 1, 0, 1}, {0, 1, 1, 0, MAX}, {0, 0, 1, MAX, 2}, {0, 5, 1, 0, 0},
@@ -1161,7 +1067,7 @@ final class PromisesTest {
         sheetIs(x, 0, 1, 2, 3, 4);
         Due.is("upwards in itself", x.move(0, 0, 0, 1, 3), 3);
         sheetIs(x, 0, 1, 1, 2, 3);
-        numbers(x, 0, 16, 1, 2, 3, 4);
+        Lifts.numbers(x, 0, 16, 1, 2, 3, 4);
         Due.is("downwards in itself", x.move(0, 1, 0, 0, 3), 3);
         sheetIs(x, 0, 2, 3, 4, 4);
     }
@@ -1175,40 +1081,40 @@ final class PromisesTest {
     }
 
     private static void stories() {
-        LiftCredit x = with(0, 0, 0);
+        LiftCredit x = Lifts.with(0, 0, 0);
         Due.is("stories(4)", x.stories(4), Due.BEYOND);
         Due.is("stories(-1)", x.stories(-1), Due.BEYOND);
         Due.is("a missing sheet", x.stories(0), Due.NONE);
-        numbers(x, 0, 16);
+        Lifts.numbers(x, 0, 16);
         Due.is("no numbers", x.stories(0), 0);
-        numbers(x, 0, 16, 6560, 0);
+        Lifts.numbers(x, 0, 16, 6560, 0);
         x.story(1, 7);
         x.story(2, 8);
         Due.is("two numbers", x.stories(0), 2);
         Due.is("story 0", x.ofRider(0, 2), 6560);
         Due.is("story 1", x.ofRider(1, 2), 0);
         Due.is("story 2 as before", x.ofRider(2, 2), 8);
-        numbers(x, 0, 16, 1, 6561, 2);
+        Lifts.numbers(x, 0, 16, 1, 6561, 2);
         Due.is("up to 6561", x.stories(0), 1);
         Due.is("story 0", x.ofRider(0, 2), 1);
         Due.is("story 1 as before", x.ofRider(1, 2), 0);
         Due.is("story 2 as before", x.ofRider(2, 2), 8);
-        numbers(x, 0, 32, -1, 2);
+        Lifts.numbers(x, 0, 32, -1, 2);
         Due.is("up to -1", x.stories(0), 0);
         Due.is("story 0 as before", x.ofRider(0, 2), 1);
-        numbers(x, 0, 8, 3, 4, 5, 6);
+        Lifts.numbers(x, 0, 8, 3, 4, 5, 6);
         Due.is("no rider for the fourth", x.stories(0), 3);
         Due.is("no ERROR", x.told(2), 1);
         Due.is("no riders", withSheet(new LiftCredit(), 1).stories(0), 0);
     }
 
     private static LiftCredit withSheet(LiftCredit x, int... floors) {
-        numbers(x, 0, 8, floors);
+        Lifts.numbers(x, 0, 8, floors);
         return x;
     }
 
     private static void judge() {
-        LiftCredit x = with(0, 0);
+        LiftCredit x = Lifts.with(0, 0);
         x.story(0, 13);
         Due.is("judge(4)", x.judge(4), Due.BEYOND);
         Due.is("judge(-1)", x.judge(-1), Due.BEYOND);
@@ -1225,7 +1131,7 @@ final class PromisesTest {
     // ---- images, what is told
 
     private static void imageAndRestore() {
-        LiftCredit x = with(49, 30);
+        LiftCredit x = Lifts.with(49, 30);
         x.story(0, 1);
         x.story(1, 5);
         x.hear(3, 2);
@@ -1235,9 +1141,9 @@ final class PromisesTest {
         x.ride(1);
         x.seed(99);
         x.tell(8);
-        textOf(x, 0, "h*5+n");
-        textOf(x, 1, "k");
-        feedAll(x, "h+");
+        Lifts.text(x, 0, "h*5+n");
+        Lifts.text(x, 1, "k");
+        Lifts.feed(x, "h+");
         int[] counts = new int[11];
         for (int what = 0; what <= 10; what++) {
             counts[what] = x.count(what);
@@ -1255,10 +1161,10 @@ final class PromisesTest {
         x.days(5);
         x.rumours(3);
         x.tell(9);
-        textOf(x, 0, "7");
+        Lifts.text(x, 0, "7");
         x.text(0);
-        textOf(x, 1, "8");
-        feedAll(x, "nnn");
+        Lifts.text(x, 1, "8");
+        Lifts.feed(x, "nnn");
         for (int times = 0; times < 2; times++) {
             Due.is("restore", x.restore(), 2);
             for (int what = 0; what <= 10; what++) {
@@ -1292,13 +1198,13 @@ final class PromisesTest {
     }
 
     private static void imageKeepsNoMore() {
-        LiftCredit x = with(0, 10);
-        numbers(x, 0, 16, 40);
+        LiftCredit x = Lifts.with(0, 10);
+        Lifts.numbers(x, 0, 16, 40);
         x.voice(0, 0, 1);
         x.hear(9, 9);
         x.image();
         x.image();
-        numbers(x, 0, 16, 41, 42);
+        Lifts.numbers(x, 0, 16, 41, 42);
         x.voice(1, 0, 1);
         x.hear(9, 9);
         Due.is("restore", x.restore(), 0);
@@ -1307,7 +1213,7 @@ final class PromisesTest {
         Due.is("not the sheets", x.stories(0), 2);
         Due.is("not the sheets", x.ofRider(0, 2), 41);
         Due.is("not how often", x.image(), 3);
-        LiftCredit y = with(0);
+        LiftCredit y = Lifts.with(0);
         y.story(0, 7);
         y.image();
         y.rider(10);
@@ -1319,7 +1225,7 @@ final class PromisesTest {
     }
 
     private static void tellAndCheck() {
-        LiftCredit x = threeDays();
+        LiftCredit x = Lifts.threeDays();
         Due.is("none waits", x.check(), 0);
         Due.is("tell", x.tell(13), 1);
         Due.is("tell", x.tell(40), 2);
@@ -1353,7 +1259,7 @@ final class PromisesTest {
     }
 
     private static void count() {
-        LiftCredit x = with(0, 10, 20);
+        LiftCredit x = Lifts.with(0, 10, 20);
         x.hear(0, 1);
         x.hear(1, 2);
         x.hear(6, 1);
@@ -1376,7 +1282,7 @@ final class PromisesTest {
     }
 
     private static void told() {
-        LiftCredit x = with(0);
+        LiftCredit x = Lifts.with(0);
         x.hear(8, 0);
         x.trace(3);
         x.trace(-3);
@@ -1397,12 +1303,12 @@ final class PromisesTest {
         Due.is("told(-1)", x.told(-1), Due.BEYOND);
         Due.is("counted, too", x.told(1), 4);
         Due.is("a told is no ERROR", x.told(1), 4);
-        textOf(x, 0, "x");
+        Lifts.text(x, 0, "x");
         Due.is("a FAULT is no ERROR", x.told(1) + x.told(2) + x.told(3), 9);
     }
 
     private static void anyNumberIsNoError() {
-        LiftCredit x = with(0);
+        LiftCredit x = Lifts.with(0);
         Due.is("a voice that sounds like an ERROR", x.voice(0, 0, Due.BEYOND), Due.BEYOND);
         x.seed(Due.BEYOND);
         Due.is("a z that looks like one", x.count(10), Due.BEYOND);

@@ -10,8 +10,8 @@ final class RidersBoundaries {
 
     // ---- Terms, ERRORS
 
-    @Sentence(of = "Terms, ERRORS", says = "ERRORS are answers below -1000000000: LOW is -1000000000; "
-            + "LOW - 1 BEYOND, LOW - 2 NONE, LOW - 3 STATE, LOW - 4 FULL, LOW - 5 KIND.")
+    @Sentence(of = "Terms, ERRORS", says = "ERRORS are answers below -1000000000: LOW is -1000000000; LOW - 1 "
+            + "BEYOND, LOW - 2 NONE, LOW - 3 STATE, LOW - 4 FULL, LOW - 5 KIND.")
     static void errorsAreNumbersBelowLow() {
         LiftCredit x = Lifts.with(0, 0, 0, 0, 0, 0);
         Due.is("BEYOND", x.hear(8, 0), -1000000001);
@@ -166,8 +166,8 @@ final class RidersBoundaries {
 
     // ---- Terms 1: riders, what they are credited
 
-    @Sentence(of = "Terms 1", says = "RIDERS 0, 1, .. (at most 6), of KINDS: 0 RIDER; 1 CLERK, 2 LIAR, 3 WIDOW "
-            + "under RIDER; 4 INSPECTOR under CLERK; 5 POET under LIAR; 6 SILENT under WIDOW")
+    @Sentence(of = "Terms 1", says = "RIDERS 0, 1, .. (at most 6), of KINDS: 0 RIDER; 1 CLERK, 2 LIAR, 3 WIDOW under "
+            + "RIDER; 4 INSPECTOR under CLERK; 5 POET under LIAR; 6 SILENT under WIDOW")
     static void ridersAreSixOfSevenKinds() {
         LiftCredit x = new LiftCredit();
         for (int kind = 0; kind <= 5; kind++) {
@@ -355,8 +355,8 @@ final class RidersBoundaries {
         Due.is("all is heard", x.heard(), ALL_SO);
     }
 
-    @Sentence(of = "Terms 1", says = "and if it is twice TRUST or more, of each FACT that it says the other way round "
-            + "nothing is HEARD any more.")
+    @Sentence(of = "Terms 1", says = "and if it is twice TRUST or more, of each FACT that it says the other way "
+            + "round nothing is HEARD any more.")
     static void twiceTrustItselfIsEnough() {
         for (int trust = 1; trust <= 4; trust++) {
             Due.is("floor below twice " + trust, heardBy(String.valueOf(2 * trust - 1), trust), 5);

@@ -67,8 +67,8 @@ final class RidesBoundaries {
 
     // ---- draws
 
-    @Sentence(of = "Terms 3", says = "DAYS by draws: z is told (1 at first); each makes it z * 1103515245 + 12345 (an int), "
-            + "and gives z >>> 8.")
+    @Sentence(of = "Terms 3", says = "DAYS by draws: z is told (1 at first); each makes it z * 1103515245 + 12345 "
+            + "(an int), and gives z >>> 8.")
     static void drawsWrap() {
         LiftCredit x = new LiftCredit();
         Due.is("1 at first", x.count(10), 1);
@@ -85,8 +85,8 @@ final class RidesBoundaries {
         }
     }
 
-    @Sentence(of = "Terms 3", says = "Each day two draws: of the FACT that is the first one's rest by 8 the second one's "
-            + "rest by 3 is HEARD; then a DAY.")
+    @Sentence(of = "Terms 3", says = "Each day two draws: of the FACT that is the first one's rest by 8 the second "
+            + "one's rest by 3 is HEARD; then a DAY.")
     static void rumoursOfEachFactAndSaying() {
         boolean[] drawn = new boolean[24];
         int combinations = 0;

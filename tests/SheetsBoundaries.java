@@ -21,7 +21,8 @@ final class SheetsBoundaries {
 
     // ---- Terms 4, promises 31 and 32
 
-    @Sentence(of = "Terms 4", says = "SHEETS 0 .. 3 are rows of 8, 16, 32 bits, at most 40 numbers, or missing (as at first).")
+    @Sentence(of = "Terms 4", says = "SHEETS 0 .. 3 are rows of 8, 16, 32 bits, at most 40 numbers, or missing (as "
+            + "at first).")
     static void sheetsFromMissingToForty() {
         LiftCredit x = six();
         for (int sheet = 0; sheet <= 3; sheet++) {
@@ -42,8 +43,8 @@ final class SheetsBoundaries {
         Due.is("a fifth", x.sheet(4, 8, 1), Due.BEYOND);
     }
 
-    @Sentence(of = "Promise 31", says = "A SHEET has n numbers, all 0, of so many bits (8, 16, 32; 0: it is missing, n doesn't "
-            + "matter): 1.")
+    @Sentence(of = "Promise 31", says = "A SHEET has n numbers, all 0, of so many bits (8, 16, 32; 0: it is missing, "
+            + "n doesn't matter): 1.")
     static void sheetOfNoneOfFortyAndMissing() {
         LiftCredit x = six();
         for (int bits = 8; bits <= 32; bits *= 2) {
@@ -140,8 +141,8 @@ final class SheetsBoundaries {
 
     // ---- Promise 33
 
-    @Sentence(of = "Promise 33", says = "n numbers of a SHEET, from number i on, come to another one (or the same), from its "
-            + "number j on, as they all were: n.")
+    @Sentence(of = "Promise 33", says = "n numbers of a SHEET, from number i on, come to another one (or the same), "
+            + "from its number j on, as they all were: n.")
     static void moveOfNoneOfAllAndWithinOneSheet() {
         LiftCredit x = Lifts.numbers(Lifts.numbers(six(), 0, 16, 1, 2, 3, 4, 5, 6), 1, 16, 7, 8, 9);
         Due.is("none", x.move(0, 0, 1, 0, 0), 0);
@@ -206,8 +207,8 @@ final class SheetsBoundaries {
 
     // ---- Promises 34 and 35
 
-    @Sentence(of = "Promise 34", says = "Numbers of a SHEET become STORIES of RIDERS 0, 1, ..: how many, up to the first that is "
-            + "not 0 to 6560 (no ERROR then), or for which there is no RIDER.")
+    @Sentence(of = "Promise 34", says = "Numbers of a SHEET become STORIES of RIDERS 0, 1, ..: how many, up to the "
+            + "first that is not 0 to 6560 (no ERROR then), or for which there is no RIDER.")
     static void storiesOfNoneOfSomeAndOfAll() {
         LiftCredit x = Lifts.saying(six(), 11, 12, 13, 14, 15, 16);
         Lifts.numbers(x, 0, 16);
@@ -251,8 +252,8 @@ final class SheetsBoundaries {
         Twins.refused(LiftCredit::new, Due.NONE, x -> x.stories(0), x -> x.stories(3));
     }
 
-    @Sentence(of = "Promise 35", says = "Numbers of a SHEET are FLOORS of RIDERS 0, 1, ..: the first that isn't so (one that "
-            + "lacks, or is too many, too); -1: all are.")
+    @Sentence(of = "Promise 35", says = "Numbers of a SHEET are FLOORS of RIDERS 0, 1, ..: the first that isn't so "
+            + "(one that lacks, or is too many, too); -1: all are.")
     static void judgeFromTheFirstToOneTooMany() {
         int[][] due = {
             {-1, 1, -1, 9}, {0, 0, -1, 9}, {0, 2, 0, 0}, {1, 1, 0, 9}, {2, 1, -1, 8}, {0}, {1, 1}, {2, 1, -1},
@@ -265,6 +266,10 @@ final class SheetsBoundaries {
                 Due.is("judge " + java.util.Arrays.toString(floors), x.judge(3), row[0]);
             }
         }
+        LiftCredit ground = Lifts.hearing(Lifts.saying(Lifts.with(0, 0), 1, 1), 2);
+        Due.is("no number for floor 0", Lifts.numbers(ground, 0, 8).judge(0), 0);
+        Due.is("no second number for floor 0", Lifts.numbers(ground, 0, 8, 0).judge(0), 1);
+        Due.is("both on floor 0", Lifts.numbers(ground, 0, 8, 0, 0).judge(0), -1);
         Due.is("nobody, no number", Lifts.numbers(new LiftCredit(), 0, 8).judge(0), -1);
         Due.is("nobody, one number", Lifts.numbers(new LiftCredit(), 0, 8, -1).judge(0), 0);
         Due.is("all of six", Lifts.numbers(six(), 0, 8, -1, -1, -1, -1, -1, -1).judge(0), -1);
@@ -306,8 +311,8 @@ final class SheetsBoundaries {
         x.seed(31);
     }
 
-    @Sentence(of = "Promise 36", says = "All (but SHEETS, THE TRACE, what told() tells, and how often this was done) is kept as "
-            + "an IMAGE, in place of one ahead: how often that was done.")
+    @Sentence(of = "Promise 36", says = "All (but SHEETS, THE TRACE, what told() tells, and how often this was done) "
+            + "is kept as an IMAGE, in place of one ahead: how often that was done.")
     static void imageInPlaceOfOneAhead() {
         LiftCredit x = new LiftCredit();
         Due.is("once", x.image(), 1);
@@ -394,8 +399,8 @@ final class SheetsBoundaries {
         Twins.refused(Lifts::withTwentyWaiting, Due.FULL, x -> x.tell(0), x -> x.tell(x.then(21)), x -> x.tell(-1));
     }
 
-    @Sentence(of = "Promise 39", says = "The numbers that wait (none do then) are all that is HEARD behind 1, 2, .. DAYS: 0; "
-            + "else 1 and the place (from 0) of the first that isn't so.")
+    @Sentence(of = "Promise 39", says = "The numbers that wait (none do then) are all that is HEARD behind 1, 2, .. "
+            + "DAYS: 0; else 1 and the place (from 0) of the first that isn't so.")
     static void checkOfNoneOfOneAndOfTwenty() {
         LiftCredit x = Lifts.slow(4428);
         Due.is("none waits", x.check(), 0);
@@ -420,9 +425,9 @@ final class SheetsBoundaries {
 
     // ---- Promises 40 and 41
 
-    @Sentence(of = "Promise 40", says = "0 RIDERS, 1 DAY, 2 RIDES, 3 of how many FACTS something is HEARD, 4 how many of these "
-            + "are as in THE WORLD, 5 TRUST, 6 THE WORLD, 7 bytes of THE TAPE, 8 numbers that wait, 9 BODIES in THE TRACE, "
-            + "10 z (any number).")
+    @Sentence(of = "Promise 40", says = "0 RIDERS, 1 DAY, 2 RIDES, 3 of how many FACTS something is HEARD, 4 how "
+            + "many of these are as in THE WORLD, 5 TRUST, 6 THE WORLD, 7 bytes of THE TAPE, 8 numbers that wait, 9 "
+            + "BODIES in THE TRACE, 10 z (any number).")
     static void countsAtTheirEdges() {
         LiftCredit x = six();
         Lifts.hearing(x, 3280);

@@ -258,7 +258,8 @@ final class TextsBoundaries {
         Due.is("who says nothing has a credit, too", y.together(3), 4);
     }
 
-    @Sentence(of = "Terms 2", says = "d of how many FACTS two of them say what is the other way round (each FACT once);")
+    @Sentence(of = "Terms 2", says = "d of how many FACTS two of them say what is the other way round (each FACT "
+            + "once);")
     static void disputedFacts() {
         LiftCredit x = Lifts.with(0, 0, 0, 0, 0, 0);
         Lifts.text(x, 1, "d");
@@ -334,7 +335,8 @@ final class TextsBoundaries {
         }, Due.FULL, x -> x.feed('1', 7), x -> x.feed(-1, 8));
     }
 
-    @Sentence(of = "Promise 13", says = "THE TAPE, which is empty then, is the TEXT of a USE (0, 1), in place of one ahead: 1.")
+    @Sentence(of = "Promise 13", says = "THE TAPE, which is empty then, is the TEXT of a USE (0, 1), in place of one "
+            + "ahead: 1.")
     static void textOfEachUse() {
         LiftCredit x = Lifts.saying(Lifts.with(0), 1);
         for (int use = 0; use <= 1; use++) {

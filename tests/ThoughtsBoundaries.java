@@ -36,7 +36,8 @@ final class ThoughtsBoundaries {
         Due.is("the last day still", x.count(1), 9999);
     }
 
-    @Sentence(of = "Terms 3", says = "TOGETHER: FLOOR of a CROWD (a set of RIDERS): what the TEXT gives, held within 0 to 9;")
+    @Sentence(of = "Terms 3", says = "TOGETHER: FLOOR of a CROWD (a set of RIDERS): what the TEXT gives, held within "
+            + "0 to 9;")
     static void floorsOfCrowdsAreHeld() {
         String[] texts = {"0-99", "0-1", "0", "1", "8", "9", "10", "99"};
         int[] due = {0, 0, 0, 1, 8, 9, 9, 9};
@@ -61,7 +62,8 @@ final class ThoughtsBoundaries {
         Due.is("one who isn't in it", x.together(31), -1);
     }
 
-    @Sentence(of = "Terms 3", says = "BEST CROWD of a RIDER: of all CROWDS in which it is that with the greatest FLOOR;")
+    @Sentence(of = "Terms 3", says = "BEST CROWD of a RIDER: of all CROWDS in which it is that with the greatest "
+            + "FLOOR;")
     static void theGreatestFloorGoesFirst() {
         LiftCredit all = sixBy("k");
         Due.is("all", all.bestWith(0, 0), 63);
@@ -98,8 +100,8 @@ final class ThoughtsBoundaries {
         Due.is("the fewest though not the least", sixBy("(s=4|k=1&s=1)*9").bestWith(5, 0), 32);
     }
 
-    @Sentence(of = "Terms 3", says = "SHORTEST to a FLOOR f (0 to 9), for a RIDER: of all STORIES with which its FLOOR is f "
-            + "or more the least LONG one;")
+    @Sentence(of = "Terms 3", says = "SHORTEST to a FLOOR f (0 to 9), for a RIDER: of all STORIES with which its "
+            + "FLOOR is f or more the least LONG one;")
     static void theLeastLongGoesFirst() {
         LiftCredit x = Lifts.hearing(Lifts.with(0), 4374);
         Due.is("to 0", x.shortest(0, 0), 1);
@@ -147,8 +149,8 @@ final class ThoughtsBoundaries {
         Due.is("all heard the other way round", x.truest(0, 1), Due.NONE);
     }
 
-    @Sentence(of = "Terms 3", says = "OUT: of a STORY the fewest SAYINGS that are left out (said nothing) so that FLOOR is f "
-            + "or more: which, as a set;")
+    @Sentence(of = "Terms 3", says = "OUT: of a STORY the fewest SAYINGS that are left out (said nothing) so that "
+            + "FLOOR is f or more: which, as a set;")
     static void theFewestAreLeftOut() {
         LiftCredit x = Lifts.hearing(Lifts.saying(Lifts.with(0), ALL_SO), 2 * 1093 + 2187);
         Due.is("none", x.out(0, 0), 0);
@@ -202,7 +204,8 @@ final class ThoughtsBoundaries {
         Due.is("a day later", y.when(1, 2), 60);
     }
 
-    @Sentence(of = "Terms 3", says = "STILL: behind how many DAYS (0 to 60) first one DAY more changes nothing of what is HEARD.")
+    @Sentence(of = "Terms 3", says = "STILL: behind how many DAYS (0 to 60) first one DAY more changes nothing of "
+            + "what is HEARD.")
     static void stillBehindNoneAndSixtyDays() {
         Due.is("nobody rides", new LiftCredit().still(), 0);
         Due.is("nobody says anything", Lifts.hearing(Lifts.with(0, 0), 5).still(), 0);
@@ -242,8 +245,8 @@ final class ThoughtsBoundaries {
         }
     }
 
-    @Sentence(of = "Terms 3", says = "BELIEVED: how many ways there are of what THE LIFT may have HEARD (a number like that of "
-            + "a STORY) with which FLOORS are so; the least.")
+    @Sentence(of = "Terms 3", says = "BELIEVED: how many ways there are of what THE LIFT may have HEARD (a number "
+            + "like that of a STORY) with which FLOORS are so; the least.")
     static void waysFromNoneToAll() {
         LiftCredit x = Lifts.numbers(Lifts.with(0), 0, 8);
         Due.is("all", x.believed(0, 0), 6561);
@@ -262,8 +265,8 @@ final class ThoughtsBoundaries {
         Due.is("no least", x.believed(0, 1), Due.NONE);
     }
 
-    @Sentence(of = "Terms 3", says = "WORD: of all FACTS that by which, a RIDER saying of it alone that it is so, there are "
-            + "most unlike FLOORS over all those ways;")
+    @Sentence(of = "Terms 3", says = "WORD: of all FACTS that by which, a RIDER saying of it alone that it is so, "
+            + "there are most unlike FLOORS over all those ways;")
     static void wordsThatTellMost() {
         LiftCredit x = Lifts.with(0, 0);
         Lifts.numbers(x, 0, 8);
@@ -281,8 +284,14 @@ final class ThoughtsBoundaries {
         }
         x.story(1, 6);
         Due.is("whatever the rider says", x.word(0, 1, 0), 7);
-        Lifts.text(x, 0, "5");
         Lifts.numbers(x, 0, 8);
+        String[] texts = {"0", "9", "n*9", "h*9", "c*9", "h*3+n*7", "n*7+h*9+c*8", "9-h", "h*99+n*10", "n*4+c*4"};
+        int[] unlike = {1, 1, 2, 2, 2, 3, 3, 2, 2, 2};
+        for (int i = 0; i < texts.length; i++) {
+            Lifts.text(x, 0, texts[i]);
+            Due.is("unlike floors by " + texts[i], x.word(0, 0, 1), unlike[i]);
+        }
+        Lifts.text(x, 0, "5");
         Due.is("all floors alike", x.word(0, 0, 1), 1);
         Due.is("all floors alike", x.word(0, 0, 0), 0);
     }
@@ -480,7 +489,8 @@ final class ThoughtsBoundaries {
             x -> x.believed(0, MAX));
     }
 
-    @Sentence(of = "Promise 26", says = "NONE: the SHEET is missing, has more numbers than there are RIDERS; (what 1) there are none.")
+    @Sentence(of = "Promise 26", says = "NONE: the SHEET is missing, has more numbers than there are RIDERS; (what "
+            + "1) there are none.")
     static void believedNone() {
         Twins.refused(Lifts::furnished, Due.NONE,
             x -> x.believed(3, 0), x -> x.believed(3, 1), x -> x.believed(0, 1), x -> x.believed(2, 1));

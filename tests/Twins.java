@@ -65,6 +65,7 @@ final class Twins {
             held.add(line("trace(" + i + ")", x.trace(i)));
         }
         held.add(line("BODIES", x.count(9)));
+        counts(x, held);
         int[] lengths = lengths(x, held);
         imaged(x, held);
         sheets(x, held, lengths);
@@ -95,12 +96,7 @@ final class Twins {
 
     /** All that an IMAGE keeps; the numbers that wait are seen only where they are as they will be. */
     private static void imaged(LiftCredit x, List<String> held) {
-        for (int what = 0; what <= 10; what++) {
-            if (what != 9) {
-                held.add(line("count(" + what + ")", x.count(what)));
-            }
-        }
-        held.add(line("heard()", x.heard()));
+        counts(x, held);
         for (int rider = 0; rider < x.count(0); rider++) {
             for (int what : new int[] {0, 1, 2, 7, 9}) {
                 held.add(line("ofRider(" + rider + ", " + what + ")", x.ofRider(rider, what)));
@@ -112,6 +108,15 @@ final class Twins {
         x.feed('1', 1);
         held.add(line("text(0) of the tape and 1", x.text(0)));
         laws(x, held);
+    }
+
+    private static void counts(LiftCredit x, List<String> held) {
+        for (int what = 0; what <= 10; what++) {
+            if (what != 9) {
+                held.add(line("count(" + what + ")", x.count(what)));
+            }
+        }
+        held.add(line("heard()", x.heard()));
     }
 
     private static void laws(LiftCredit x, List<String> held) {

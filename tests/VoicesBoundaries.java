@@ -45,8 +45,8 @@ final class VoicesBoundaries {
 
     // ---- Terms 3: VOICES, BODIES
 
-    @Sentence(of = "Terms 3", says = "VOICES of a RIDER, with a number x (ints that go round); n is the number, m as told: "
-            + "0 says, 1 rises, 2 doubts, 3 tells.")
+    @Sentence(of = "Terms 3", says = "VOICES of a RIDER, with a number x (ints that go round); n is the number, m as "
+            + "told: 0 says, 1 rises, 2 doubts, 3 tells.")
     static void voicesOfTheFirstAndTheLastRider() {
         speaks(9, SAYS, 7, 7, 10);
         speaks(9, RISES, 7, 14, 11, 10);
@@ -146,8 +146,8 @@ final class VoicesBoundaries {
         speaks(60, TELLS, 1 << 30, 1 << 30, 71, 11, 10, 13, 11, 10, 70, 40, 12);
     }
 
-    @Sentence(of = "Terms 3", says = "says(..) is the BODY of its KIND, or of the next KIND above that has one; super.says(..) "
-            + "that from the KIND above the BODY's on.")
+    @Sentence(of = "Terms 3", says = "says(..) is the BODY of its KIND, or of the next KIND above that has one; "
+            + "super.says(..) that from the KIND above the BODY's on.")
     static void bodiesOfTheKindOrOfOneAbove() {
         int[][][] bodies = {
             {{10}, {11, 10}, {12}, {13, 11, 10, 12}},
@@ -169,8 +169,8 @@ final class VoicesBoundaries {
         }
     }
 
-    @Sentence(of = "Terms 3", says = "THE TRACE: the numbers of BODIES of the latest voice(), as they began (what stands left "
-            + "is worked out first), the first 40.")
+    @Sentence(of = "Terms 3", says = "THE TRACE: the numbers of BODIES of the latest voice(), as they began (what "
+            + "stands left is worked out first), the first 40.")
     static void theTraceOfTheLatestVoice() {
         LiftCredit x = Lifts.with(60, 0);
         Due.is("none at first", x.count(9), 0);
