@@ -48,7 +48,9 @@ import javax.tools.ToolProvider;
 
 /**
  * That the class keeps to LANGUAGE.md by what the compiler understands of it: what each call calls,
- * of which type each thing is, how deep the calls go. What words can tell is in LanguageTest.
+ * of which type each thing is, how deep the calls go. What words can tell is in LanguageTest. Some
+ * of what the rules leave is refused here, too, as the class doesn't need it: lists, casts of
+ * objects, loops whose end is looked at last, rows made outside constructors.
  */
 final class LanguageTreeTest {
     private static final Path SOURCE = Path.of("src/main/java/LiftCredit.java");
